@@ -1370,8 +1370,8 @@ public final class WardrobeRow {
                 return 1;
             }
             for (int i = 0; i < n; i++) {
-                int caught = burnt == 0 ? 0 : terrace.around(burnt, shutDoors);
-                for (int r = 0; r < MOST_ROOMS; r++) {
+                int caught = burnt == 0 ? 0 : terrace.around(burnt, shutDoors) & ~burnt;
+                for (int r = 0; caught != 0 && r < MOST_ROOMS; r++) {
                     if (has(caught, r)) {
                         setFire(r);
                     }
@@ -1798,8 +1798,10 @@ public final class WardrobeRow {
                 return entered;
             }
             int reached = bit(here);
-            for (int i = 0; i < MOST_ROOMS; i++) {
-                reached |= terrace.around(reached, deeds.shutDoors) & entered;
+            int fresh = reached;
+            for (int i = 0; i < MOST_ROOMS && fresh != 0; i++) {
+                fresh = terrace.around(fresh, deeds.shutDoors) & entered & ~reached;
+                reached |= fresh;
             }
             return reached;
         }
@@ -1860,10 +1862,17 @@ public final class WardrobeRow {
         private void leastPath(int here, int goings) {
             int at = here;
             for (int i = 0; i < goings && i < MOST_ROOMS; i++) {
-                int least = Integer.numberOfTrailingZeros(near[at] & layers[goings - 1 - i]);
-                at = Math.min(least, MOST_ROOMS - 1);
+                at = leastOf(near[at] & layers[goings - 1 - i]);
                 path[i] = at;
             }
+        }
+
+        private static int leastOf(int rooms) {
+            int least = 0;
+            while (least < MOST_ROOMS - 1 && !has(rooms, least)) {
+                least++;
+            }
+            return least;
         }
 
         void tellSteps(int goings) {
@@ -1895,10 +1904,12 @@ public final class WardrobeRow {
         }
 
         int minutesTill(Terrace terrace, Deeds deeds, int r) {
+            int burnt = deeds.burnt;
             for (int n = 0; n <= MOST_ROOMS; n++) {
-                if (has(burntIn(terrace, deeds, n), r)) {
+                if (has(burnt, r)) {
                     return n;
                 }
+                burnt |= terrace.around(burnt, deeds.shutDoors);
             }
             return NONE;
         }
