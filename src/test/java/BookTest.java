@@ -124,7 +124,9 @@ public final class BookTest {
         why("shuts 2;", 0, 69);
         why("opens 1;", 0, 71);
         why("opens 0;", 0, 72);
+        why("opens 2;", 0, 79);
         why("opens 19;", 0, 79);
+        why("shuts 19;", 0, 69);
         why("burns a;burns a;", 1, 81);
         why("minute 60;".repeat(16) + "minute 39;minute 1;", 17, 91);
     }

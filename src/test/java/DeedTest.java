@@ -15,6 +15,7 @@ public final class DeedTest {
         burning();
         passing();
         undoing();
+        undoingEach();
         noSuchOnes();
         Check.close();
     }
@@ -232,6 +233,56 @@ public final class DeedTest {
         row.drawn(3, 5);
         Check.due("drawn undone", row.undo(), 0);
         Check.due("minute", row.now(0), 0);
+    }
+
+    private static void dueUndone(String what, WardrobeRow row, int done) {
+        // a deed that is not done comes between, so that only the done one's own keeping can bring it back
+        WardrobeRow fresh = Check.row(TEXT + "heir o p;");
+        Check.due(what + " is done", done, 0);
+        row.go(0, 5);
+        Check.due(what + " is undone", row.undo(), 0);
+        for (int r = 0; r < 6; r++) {
+            for (int which = 0; which < 5; which++) {
+                Check.due(what + ": room " + r + ", " + which, row.room(r, which), fresh.room(r, which));
+            }
+        }
+        for (int p = 0; p < 3; p++) {
+            for (int which = 0; which < 6; which++) {
+                Check.due(what + ": owner " + p + ", " + which, row.owner(p, which), fresh.owner(p, which));
+            }
+        }
+        for (int k = 0; k < 4; k++) {
+            Check.due(what + ": passage " + k, row.passage(k, 3), 0);
+        }
+        for (int which = 0; which < 6; which++) {
+            Check.due(what + ": now " + which, row.now(which), fresh.now(which));
+        }
+    }
+
+    private static void undoingEach() {
+        String text = TEXT + "heir o p;";
+        WardrobeRow row = Check.row(text);
+        dueUndone("go", row, row.go(0, 1));
+        row = Check.row(text);
+        dueUndone("leave", row, row.leave(0) ? 0 : 1);
+        row = Check.row(text);
+        dueUndone("sell", row, row.sell(0, 0, 1));
+        row = Check.row(text);
+        dueUndone("let", row, row.let(0, 1, 1));
+        row = Check.row(text);
+        dueUndone("will", row, row.will(1, 2));
+        row = Check.row(text);
+        dueUndone("die", row, row.die(0));
+        row = Check.row(text);
+        dueUndone("shut", row, row.shut(0, 1));
+        row = Check.row(text);
+        dueUndone("burn", row, row.burn(0));
+        row = Check.row(text);
+        dueUndone("minutes", row, row.minutes(9) - 9);
+        row = Check.row(text);
+        dueUndone("drawn", row, row.drawn(9, 4) - 9);
+        row = Check.row(text);
+        dueUndone("book", row, Check.book(row, "o goes b;shuts 0;burns a;minute 2;p dies;q wills o;", 1) + 1);
     }
 
     private static void noSuchOnes() {

@@ -27,7 +27,9 @@ public final class HouseTest {
         Check.due("o by q alone", corridor(row, 0, 2), 0b1101);
         Check.due("p by q, o", corridor(row, 1, 2, 0), 0b1111);
         Check.due("himself", corridor(row, 1, 1), -1);
+        Check.due("himself behind another", corridor(row, 1, 0, 1), -1);
         Check.due("twice", corridor(row, 1, 0, 0), -1);
+        Check.due("twice with another between", corridor(row, 1, 0, 2, 0), -1);
         Check.due("no such one in it", corridor(row, 1, 4), -1);
         Check.due("none", corridor(row, 1), -1);
         Check.due("seven", corridor(row, 1, 0, 2, 3, 0, 2, 3, 0), -1);
@@ -64,6 +66,13 @@ public final class HouseTest {
         Check.due("i: s", row.guests(1), 0b1000);
         Check.due("j: all", row.guests(2), 0b1111);
         Check.due("no such ones", row.guests(3) + row.guests(-1), -2);
+        row.let(1, 3, 1);
+        Check.due("h: s is let by p alone", row.guests(0), 0b0100);
+        row.let(0, 3, 1);
+        Check.due("h: s is let by both", row.guests(0), 0b1100);
+        row.let(1, 3, 0);
+        Check.due("h: s is let by o alone", row.guests(0), 0b0100);
+        row.let(0, 3, 0);
         row.die(2);
         Check.due("i is o's: none let but q", row.guests(1), 0);
         Check.due("h: q is dead", row.guests(0), 0);

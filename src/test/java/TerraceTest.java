@@ -65,6 +65,11 @@ public final class TerraceTest {
         }
         fine("house hous;owner owners;owner nots;", 3);
         fault("house a;owner a;", 14, 3);
+        fault("owner a;owner a;", 14, 3);
+        fault("owner a;house a;", 14, 3);
+        fault("house h;owner o;room r h o;room r h o;", 32, 3);
+        fault("house h;owner o;room r h o;house r;", 33, 3);
+        fault("house h;owner o;room r h o;owner r;", 33, 3);
         fault("house h;owner o;room h h o;", 21, 3);
         fault("house h;owner o;room r o o;", 23, 3);
         fault("house h;owner o;room r h h;", 25, 3);
@@ -166,6 +171,19 @@ public final class TerraceTest {
         Check.due("shut anew", anew.passage(0, 3), 0);
         Check.due("no SENTENCE anew", anew.said(-1), -1);
         Check.due("nothing to undo anew", anew.undo(), -1);
+        Check.terrace(anew, HEAD + "owner q;door r s;at o r;leave o p;leave o q;heir o p;likes o r 3;");
+        Check.due("lets both", anew.owner(0, 3), 6);
+        Check.due("goes", anew.go(0, 1) + anew.go(1, 1) + anew.sell(0, 0, 1), 4);
+        Check.terrace(anew, HEAD);
+        Check.due("where anew", anew.owner(0, 0), -1);
+        Check.due("lets anew", anew.owner(0, 3), 0);
+        Check.due("heir anew", anew.owner(0, 4), -1);
+        Check.due("goings anew", anew.now(5), 0);
+        Check.due("sales anew", anew.now(4), 0);
+        Check.due("owner anew", anew.room(0, 1), 0);
+        Check.due("passages anew", anew.count(3), 0);
+        Check.sentence(anew, "worth > 0");
+        Check.due("likings anew", anew.said(-1), 0);
     }
 
     private static void asking() {

@@ -9,6 +9,7 @@ public final class WayTest {
 
     public static void main(String[] args) {
         ways();
+        longest();
         latest();
         bars();
         asking();
@@ -51,6 +52,27 @@ public final class WayTest {
         Check.due("where he is", stays.way(0, 0), 0);
         stays.go(0, 1);
         Check.due("not back", stays.way(0, 0), -1);
+    }
+
+    private static void longest() {
+        StringBuilder text = new StringBuilder("house hh;owner oo;");
+        for (char r = 'a'; r < 'm'; r++) {
+            text.append("room ").append(r).append(" hh oo;");
+        }
+        for (char r = 'a'; r < 'l'; r++) {
+            text.append("door ").append(r).append(' ').append((char) (r + 1)).append(';');
+        }
+        WardrobeRow row = Check.row(text + "at oo a;");
+        Check.due("through all", row.way(0, 11), 11);
+        for (int i = 0; i < 11; i++) {
+            Check.due("step " + i, row.step(i), i + 1);
+        }
+        Check.due("no more", row.step(11), -1);
+        Check.due("nothing barred", row.barred(0), 0);
+        row.burn(11);
+        Check.due("the fire's longest way", row.fire(0), 11);
+        Check.due("all but one", row.spread(10), 0b111111111110);
+        Check.due("all", row.spread(11), 0b111111111111);
     }
 
     private static void latest() {
