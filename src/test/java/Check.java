@@ -5,15 +5,25 @@ import java.util.NoSuchElementException;
 final class Check {
     private static int checks;
     private static int wrong;
+    private static String sentence = "";
 
     private Check() {
     }
 
+    /** The sentence of the document that the checks behind this call are about. */
+    static void about(String words) {
+        sentence = "[" + words + "] ";
+    }
+
     static void due(String what, long got, long want) {
+        dueText(what, Long.toString(got), Long.toString(want));
+    }
+
+    static void dueText(String what, String got, String want) {
         checks++;
-        if (got != want) {
+        if (!got.equals(want)) {
             wrong++;
-            System.out.println(what + " answered " + got + ", due is " + want);
+            System.out.println(sentence + what + " answered " + got + ", due is " + want);
         }
     }
 
@@ -68,6 +78,46 @@ final class Check {
             throw new IllegalStateException("a FAULT at " + (-1 - lines) + " in " + text);
         }
         return row;
+    }
+
+    /** All that the face tells of what is so, so that a test can say that all of it stays. */
+    static String seen(WardrobeRow row) {
+        StringBuilder all = new StringBuilder();
+        for (int what = 0; what < 6; what++) {
+            all.append(what < 5 ? row.count(what) : 0).append(' ').append(row.now(what)).append(' ');
+        }
+        for (int r = 0; r < row.count(2); r++) {
+            for (int what = 0; what < 5; what++) {
+                all.append(row.room(r, what)).append(' ');
+            }
+        }
+        for (int p = 0; p < row.count(1); p++) {
+            for (int what = 0; what < 6; what++) {
+                all.append(row.owner(p, what)).append(' ');
+            }
+        }
+        for (int k = 0; k < row.count(3); k++) {
+            for (int what = 0; what < 4; what++) {
+                all.append(row.passage(k, what)).append(' ');
+            }
+        }
+        for (int k = -1; k < row.said(-1); k++) {
+            all.append(row.said(k)).append(' ');
+        }
+        return all.toString();
+    }
+
+    static String blanks(String text, int bytes) {
+        return text + " ".repeat(bytes - text.length());
+    }
+
+    /** Many lines of a sort, the names being the letters from a on. */
+    static String lines(String word, int many, String tail) {
+        StringBuilder text = new StringBuilder();
+        for (int i = 0; i < many; i++) {
+            text.append(word).append(' ').append((char) ('a' + i)).append(tail).append(';');
+        }
+        return text.toString();
     }
 
     static int terrace(WardrobeRow row, String text) {
