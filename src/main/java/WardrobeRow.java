@@ -1914,9 +1914,12 @@ public final class WardrobeRow {
             return NONE;
         }
 
-        /** As many doors as there are ways for the fire that share no door; robes carry any number of ways. */
+        /**
+         * As many doors as there are ways for the fire that share no door. Robes carry any number of ways, so where
+         * robes alone lead there are more ways than there may be doors.
+         */
         int fewestDoors(Terrace terrace, Deeds deeds, int r) {
-            if (has(deeds.burnt, r) || has(burntByRobes(terrace, deeds), r)) {
+            if (has(deeds.burnt, r)) {
                 return NONE;
             }
             Arrays.fill(flow, 0);
@@ -1927,14 +1930,6 @@ public final class WardrobeRow {
                 takeWay(terrace, deeds.burnt, r);
             }
             return NONE;
-        }
-
-        private int burntByRobes(Terrace terrace, Deeds deeds) {
-            int burnt = deeds.burnt;
-            for (int i = 0; i < MOST_ROOMS; i++) {
-                burnt |= terrace.around(burnt, ~terrace.robes);
-            }
-            return burnt;
         }
 
         private boolean findsWay(Terrace terrace, Deeds deeds, int r) {

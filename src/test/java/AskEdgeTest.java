@@ -18,6 +18,7 @@ public final class AskEdgeTest {
         wayOfTheDead();
         wayAsItIs();
         steps();
+        stepsFarthest();
         stepsOfTheLatest();
         barred();
         askedFewest();
@@ -123,6 +124,29 @@ public final class AskEdgeTest {
             + "door a b;door b c;door c e;door a d;door d e;at o a;");
         Check.due("two", shorter.way(0, 4), 2);
         Check.due("d", shorter.step(0), 3);
+    }
+
+    private static void stepsFarthest() {
+        Check.about("step: the first ROOM and the last, on the longest WAY that can be");
+        StringBuilder text = new StringBuilder("house hh;owner oo;" + Check.lines("room", 12, " hh oo"));
+        for (char r = 'a'; r < 'l'; r++) {
+            text.append("door ").append(r).append(' ').append((char) (r + 1)).append(';');
+        }
+        WardrobeRow up = Check.row(text + "at oo a;");
+        WardrobeRow down = Check.row(text + "at oo l;");
+        Check.due("to the last", up.way(0, 11), 11);
+        Check.due("to the first", down.way(0, 0), 11);
+        for (int i = 0; i < 11; i++) {
+            Check.due("step(" + i + ") up", up.step(i), i + 1);
+            Check.due("step(" + i + ") down", down.step(i), 10 - i);
+        }
+        Check.due("no more", up.step(11) + down.step(11), -2);
+        Check.due("none is barred", up.barred(0) + down.barred(0), 0);
+        Check.due("none is asked", up.asks(0, 11) + down.asks(0, 0), 0);
+        up.burn(11);
+        Check.due("the longest that a fire needs", up.fire(0), 11);
+        Check.due("all but the first", up.spread(10), 0b111111111110);
+        Check.due("all", up.spread(11), 0b111111111111);
     }
 
     private static void stepsOfTheLatest() {
@@ -334,6 +358,13 @@ public final class AskEdgeTest {
         waist.burn(0);
         Check.due("one in the middle", waist.cut(5), 1);
         Check.due("two at the fire", waist.cut(2), 2);
+        // c has four doors, all of them at the fire or open to it behind one more
+        WardrobeRow turned = Check.row("house hh;owner oo;room a hh oo;room b hh oo;room c hh oo;room d hh oo;room e hh oo;"
+            + "door c b;door b a;door d b;door d c;door e c;door e b;robe d a;door c a;");
+        turned.burn(0);
+        Check.due("all four of c", turned.cut(2), 4);
+        Check.due("two of e", turned.cut(4), 2);
+        Check.due("d behind the robe", turned.cut(3), -1);
     }
 
     private static void exchangeWhoComes() {
@@ -375,6 +406,13 @@ public final class AskEdgeTest {
         Check.due("o keeps a", next.exchange(0), 0);
         Check.due("p has c then", next.exchange(1), 2);
         Check.due("q has b then", next.exchange(2), 1);
+        // each waits for the one ahead of him to be gone, so that all six go one by one
+        WardrobeRow row = Check.row(SIX + "room ra h a;room rb h b;room rc h c;room rd h d;room re h e;room rf h f;"
+            + "likes b ra 1;likes c rb 1;likes d rc 1;likes e rd 1;likes f re 1;");
+        for (int p = 0; p < 6; p++) {
+            Check.due("at last his own", row.exchange(p), p);
+        }
+        Check.due("no ring of more than one", row.rings(), 0);
     }
 
     private static void rings() {
@@ -603,8 +641,11 @@ public final class AskEdgeTest {
             + "leave o p;leave p o;");
         Check.due("q alone", row.guests(0), 0b100);
         Check.due("a HOUSE without ROOMS: all", row.guests(1), 0b111);
+        row.let(0, 2, 0);
+        Check.due("let into p's alone", row.guests(0), 0);
+        row.let(0, 2, 1);
         row.let(1, 2, 0);
-        Check.due("let into one alone", row.guests(0), 0);
+        Check.due("let into o's alone", row.guests(0), 0);
         row.die(1);
         Check.due("that one is free now: it is not owned", row.guests(0), 0b100);
         row.die(0);
@@ -616,6 +657,11 @@ public final class AskEdgeTest {
     private static void mixed() {
         Check.about("mixed: HOUSES that have ROOMS, but in which nobody owns all of them, as bits");
         Check.due("without a TERRACE", new WardrobeRow().mixed(), 0);
+        Check.due("without ROOMS and OWNERS", Check.row("house h;house i;").mixed(), 0);
+        WardrobeRow first = Check.row("house h;house i;owner o;owner p;room a h o;room b i p;");
+        Check.due("each of one", first.mixed(), 0);
+        first.die(0);
+        Check.due("the first HOUSE is nobody's", first.mixed(), 0b01);
         WardrobeRow row = Check.row("house h;house i;house j;owner o;owner p;room a i o;room b i o;room c j o;");
         Check.due("without ROOMS, of one, of one", row.mixed(), 0);
         row.sell(0, 0, 1);
@@ -647,6 +693,7 @@ public final class AskEdgeTest {
         Check.due("no TERRACE", new WardrobeRow().drawn(1, 1), -1);
         Check.due("no ROOMS", Check.row("house h;owner o;").drawn(1, 1), -1);
         Check.due("nobody lives", lonely().drawn(60, 5), 60);
+        Check.due("one ROOM", Check.row("house h;owner o;room r h o;").drawn(1, 1), 1);
     }
 
     private static WardrobeRow lonely() {

@@ -33,6 +33,7 @@ public final class DeedEdgeTest {
         minutesByNumbers();
         minutesLimits();
         undoneAtMost();
+        undoneBehindRefused();
         undoneRound();
         undoneWhat();
         Check.close();
@@ -119,6 +120,12 @@ public final class DeedEdgeTest {
         Check.due("all", row.now(5), 2);
         row.die(2);
         Check.due("of a dead one, too", row.now(5), 2);
+        WardrobeRow all = row();
+        all.go(0, 3);
+        all.go(1, 2);
+        all.go(2, 2);
+        Check.due("o went, p did not, q came in", all.owner(0, 5) * 100 + all.owner(1, 5) * 10 + all.owner(2, 5), 101);
+        Check.due("all", all.now(5), 2);
     }
 
     private static void goingNoSuchOnes() {
@@ -497,6 +504,35 @@ public final class DeedEdgeTest {
         Check.due("what is not kept stays done", row.now(0), 4);
     }
 
+    private static void undoneBehindRefused() {
+        Check.about("that was done is undone (8 at most are kept)");
+        String[] before = new String[10];
+        WardrobeRow row = row();
+        for (int i = 0; i < 10; i++) {
+            before[i] = Check.seen(row);
+            row.minutes(i + 1);
+        }
+        // what is not done takes no place among the eight that are kept
+        row.go(0, 4);
+        row.leave(2);
+        row.sell(0, 1, 2);
+        row.let(0, 1, 0);
+        row.will(0, 0);
+        row.die(7);
+        row.shut(1, 1);
+        row.burn(9);
+        row.minutes(61);
+        row.drawn(0, 1);
+        Check.book(row, "!", 1);
+        Check.book(row, "minute 1;", 0);
+        for (int i = 9; i >= 2; i--) {
+            Check.due("undo()", row.undo(), i - 2);
+            Check.dueText("as ahead of deed " + i, Check.seen(row), before[i]);
+        }
+        Check.due("the first two are not kept", row.undo(), -1);
+        Check.dueText("they stay done", Check.seen(row), before[2]);
+    }
+
     private static void undoneRound() {
         Check.about("The latest of all these that was done is undone");
         WardrobeRow row = new WardrobeRow();
@@ -552,6 +588,16 @@ public final class DeedEdgeTest {
         WardrobeRow row = row();
         done("drawn", row, one -> one.drawn(20, 9) - 20);
         done("a BOOK lived", row, one -> Check.book(one, "o goes d;minute 3;", 1) + 1);
+        WardrobeRow behind = row();
+        behind.minutes(1);
+        behind.minutes(1);
+        behind.undo();
+        behind.shut(0, 1);
+        Check.book(behind, "o goes d;minute 3;", 1);
+        behind.go(0, 2);
+        Check.due("a BOOK undone", behind.undo(), 2);
+        Check.due("the door stays shut, the MINUTE is 1", behind.passage(0, 3) * 10 + behind.now(0), 11);
+        Check.due("he is in a", behind.owner(0, 0), 0);
         done("a BOOK lived as far as it is not WRONG", row, one -> Check.book(one, "o goes d;o goes c;o dies;", 1) - 1);
         refused("a BOOK judged", row, one -> Check.book(one, "o goes d;", 0), -1);
         refused("a BOOK with a FAULT", row, one -> Check.book(one, "o goes d;x", 1), -11);

@@ -30,6 +30,7 @@ public final class KeepEdgeTest {
         bookedDied();
         saidNone();
         saidKth();
+        saidWhat();
         sentenceStays();
         imagePlaces();
         imageWhole();
@@ -167,6 +168,15 @@ public final class KeepEdgeTest {
         Check.dueText("as at first", Check.seen(row), first);
         Check.due("no SENTENCE", row.said(-1), -1);
         Check.due("nothing to undo", row.undo(), -1);
+        // a door where there was a robe, none where there was leave, an heir, a liking, one in it
+        Check.terrace(row, "house h;owner o;owner p;owner q;room a h o;room b h p;room c h q;door b c;door a b;");
+        Check.due("no robes", row.count(4), 0);
+        Check.due("each can be shut", row.shut(0, 1) + row.shut(1, 1), 0);
+        Check.due("nobody is in", row.owner(0, 0) + row.room(0, 3), -1);
+        Check.due("nobody lets", row.owner(1, 3), 0);
+        Check.due("no heir", row.owner(0, 4), -1);
+        row.prices();
+        Check.due("no liking", row.wants(0), -1);
         row.die(0);
         row.burn(0);
         Check.due("an empty one", Check.terrace(row, ""), 0);
@@ -419,6 +429,66 @@ public final class KeepEdgeTest {
         Check.due("of it as it is again", row.said(1), -1);
     }
 
+    private static int rooms(WardrobeRow row, String text) {
+        Check.sentence(row, text);
+        int rooms = 0;
+        for (int k = 0; k < row.said(-1); k++) {
+            rooms |= 1 << row.said(k);
+        }
+        return rooms;
+    }
+
+    private static void saidWhat() {
+        Check.about("COND: ALL { 'or' ALL }. ALL: ONE { 'and' ONE }. ONE: 'not' ONE | ( COND )");
+        // four ROOMS for the four cases of two conditions: of o is 1100, in h is 1010
+        WardrobeRow row = Check.row("house h;house i;owner o;owner p;room a i p;room b h p;room c i o;room d h o;");
+        Check.due("of o", rooms(row, "of o"), 0b1100);
+        Check.due("in h", rooms(row, "in h"), 0b1010);
+        Check.due("and", rooms(row, "of o and in h"), 0b1000);
+        Check.due("or", rooms(row, "of o or in h"), 0b1110);
+        Check.due("not", rooms(row, "not of o"), 0b0011);
+        Check.due("not is closer than and", rooms(row, "not of o and in h"), 0b0010);
+        Check.due("not is closer than or", rooms(row, "not of o or in h"), 0b1011);
+        Check.due("and is closer than or", rooms(row, "of o or in h and of p"), 0b1110);
+        Check.due("and is closer than or", rooms(row, "of p and in h or of o"), 0b1110);
+        Check.due("brackets", rooms(row, "(of o or in h) and of p"), 0b0010);
+        Check.due("brackets", rooms(row, "not(of o or in h)"), 0b0001);
+        Check.due("and and", rooms(row, "of o and in h and number = 3"), 0b1000);
+        Check.due("or or", rooms(row, "number = 0 or number = 2 or number = 3"), 0b1101);
+        Check.due("or and or", rooms(row, "number = 0 or of o and in h or number = 1"), 0b1011);
+        Check.due("not not", rooms(row, "not not of o"), 0b1100);
+        Check.about("'burnt' | 'free' (nobody owns it) | 'of' OWNER (owns it)");
+        row.burn(3);
+        row.die(1);
+        Check.due("burnt", rooms(row, "burnt"), 0b1000);
+        Check.due("free", rooms(row, "free"), 0b0011);
+        Check.due("of a dead one", rooms(row, "of p"), 0);
+        Check.due("of who lives", rooms(row, "of o"), 0b1100);
+        Check.about("who are there; its PASSAGES, shut ones, too; the greatest liking of it; its number");
+        WardrobeRow told = Check.row("house h;owner o;owner p;room a h o;room b h o;room c h o;room d h o;door a b;robe b c;"
+            + "at o b;at p b;likes o a 9;likes p a 2;likes o b 2;likes p b 3;likes p c 1;");
+        told.shut(0, 1);
+        Check.due("nobody is there", rooms(told, "people = 0"), 0b1101);
+        Check.due("two are there", rooms(told, "people = 2"), 0b0010);
+        Check.due("more than one", rooms(told, "people > 1"), 0b0010);
+        Check.due("less than one", rooms(told, "people < 1"), 0b1101);
+        Check.due("no PASSAGES", rooms(told, "doors = 0"), 0b1000);
+        Check.due("one", rooms(told, "doors = 1"), 0b0101);
+        Check.due("two, one shut, one a robe", rooms(told, "doors = 2"), 0b0010);
+        Check.due("liked by nobody", rooms(told, "worth = 0"), 0b1000);
+        Check.due("less than 1", rooms(told, "worth < 1"), 0b1000);
+        Check.due("the greatest, of the first OWNER", rooms(told, "worth = 9"), 0b0001);
+        Check.due("the greatest, of the last", rooms(told, "worth = 3"), 0b0010);
+        Check.due("1", rooms(told, "worth = 1"), 0b0100);
+        Check.due("the first", rooms(told, "number < 1"), 0b0001);
+        Check.due("the last", rooms(told, "number > 2"), 0b1000);
+        Check.due("none", rooms(told, "number > 3 or number < 0 or worth > 9"), 0);
+        told.leave(0);
+        Check.due("one is there", rooms(told, "people = 1"), 0b0010);
+        told.burn(1);
+        Check.due("who was in it is dead", rooms(told, "people > 0"), 0);
+    }
+
     private static void sentenceStays() {
         Check.about("sentence: -1 less the place of a FAULT: it stays");
         WardrobeRow row = Check.row(TEXT);
@@ -443,6 +513,10 @@ public final class KeepEdgeTest {
         Check.due("nothing in 1", row.restore(1), false);
         Check.due("image(0)", row.image(0), true);
         Check.due("nothing in 1", row.restore(1), false);
+        for (int k : new int[] {2, -1, 32, -32, 64, FAR, LOW}) {
+            Check.due("image(" + k + ")", row.image(k), false);
+            Check.due("restore(" + k + ")", row.restore(k), false);
+        }
         row.minutes(1);
         Check.due("image(1)", row.image(1), true);
         row.minutes(1);

@@ -46,7 +46,107 @@ public final class ModelTest {
                 step(drawn[RANDOM.nextInt(drawn.length)]);
             }
         }
+        full();
         Check.close();
+    }
+
+    /** As many HOUSES, OWNERS, ROOMS and PASSAGES as there may be, and all that may be asked of them. */
+    private static void full() throws Exception {
+        StringBuilder text = new StringBuilder(Check.lines("house", 6, ""));
+        for (char p = 'g'; p <= 'l'; p++) {
+            text.append("owner ").append(p).append(';');
+        }
+        for (int r = 0; r < 12; r++) {
+            text.append("room ").append((char) ('m' + r)).append(' ').append((char) ('a' + r * 5 % 6)).append(' ')
+                .append((char) ('g' + r * 7 % 6)).append(';');
+        }
+        for (int k = 0; k < 20; k++) {
+            int r = k % 12;
+            int s = k < 12 ? (r + 1) % 12 : (r + 5) % 12;
+            text.append(k % 6 == 5 ? "robe " : "door ").append((char) ('m' + r)).append(' ').append((char) ('m' + s)).append(';');
+        }
+        for (int p = 0; p < 6; p++) {
+            text.append("at ").append((char) ('g' + p)).append(' ').append((char) ('m' + 2 * p)).append(';');
+            text.append("heir ").append((char) ('g' + p)).append(' ').append((char) ('g' + (p + 1) % 6)).append(';');
+            text.append("leave ").append((char) ('g' + p)).append(' ').append((char) ('g' + (p + 2) % 6)).append(';');
+            for (int i = 0; i < 3; i++) {
+                text.append("likes ").append((char) ('g' + p)).append(' ').append((char) ('m' + (p * 5 + i * 4) % 12))
+                    .append(' ').append(1 + (p + i * 4) % 9).append(';');
+            }
+        }
+        String[][] deeds = {{}, {"burn", "11"}, {"shut", "19", "1"}, {"die", "5"}, {"minutes", "1"}, {"burn", "0"},
+            {"minutes", "1"}, {"drawn", "9", "77"}};
+        int done = 0;
+        for (int i = 0; i < deeds.length; i++) {
+            for (String query : QUERIES) {
+                // a new object for each, as the deeds among them change what is so
+                row = new WardrobeRow();
+                model = new Model();
+                HISTORY.clear();
+                text(text.toString(), "terrace");
+                for (int j = 1; j <= i; j++) {
+                    alike(deeds[j][0], numbers(deeds[j]));
+                }
+                done += all(query);
+            }
+        }
+        Check.due("calls on full TERRACES", done > 3000, true);
+    }
+
+    private static final String[] QUERIES = {"room:RW", "owner:OW", "passage:KW", "now:W", "way:OR", "barred:O", "asks:OR",
+        "through:OR", "fire:R", "spread:R", "cut:R", "exchange:O", "rings:", "prices:", "heir:O", "guests:H", "mixed:", "count:W",
+        "go:OR", "leave:O", "sell:ORO", "let:OOS", "will:OO", "die:O", "shut:KS", "burn:R"};
+
+    private static int[] numbers(String[] call) {
+        int[] numbers = new int[call.length - 1];
+        for (int i = 0; i < numbers.length; i++) {
+            numbers[i] = Integer.parseInt(call[i + 1]);
+        }
+        return numbers;
+    }
+
+    /** The call with all numbers that there are and one more at both ends. */
+    private static int all(String query) throws Exception {
+        String name = query.substring(0, query.indexOf(':'));
+        String sorts = query.substring(query.indexOf(':') + 1);
+        int[] arguments = new int[sorts.length()];
+        java.util.Arrays.fill(arguments, -1);
+        int done = 0;
+        int place = 0;
+        while (place >= 0) {
+            alike(name, arguments.clone());
+            done++;
+            if (name.equals("way") || name.equals("asks") || name.equals("prices")) {
+                told(name);
+            }
+            place = sorts.length() - 1;
+            while (place >= 0 && arguments[place] == most(sorts.charAt(place))) {
+                arguments[place] = -1;
+                place--;
+            }
+            if (place >= 0) {
+                arguments[place]++;
+            }
+        }
+        return done;
+    }
+
+    private static int most(char sort) {
+        return sort == 'R' ? 12 : sort == 'K' ? 20 : sort == 'S' ? 2 : 6;
+    }
+
+    private static void told(String name) throws Exception {
+        if (name.equals("asks")) {
+            alike("asked");
+        }
+        for (int i = -1; i <= 12; i++) {
+            if (name.equals("way")) {
+                alike("step", i);
+            } else if (name.equals("prices")) {
+                alike("price", i);
+                alike("wants", i);
+            }
+        }
     }
 
     private static void step(String drawn) throws Exception {
