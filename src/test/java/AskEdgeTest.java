@@ -265,6 +265,12 @@ public final class AskEdgeTest {
         row.die(2);
         Check.due("a free one is nobody's", row.through(0, 2), 0b010);
         Check.due("none", row.through(1, 0), -1);
+        StringBuilder text = new StringBuilder("house hh;owner oo;owner pp;" + Check.lines("room", 11, " hh oo")
+            + "room l hh pp;leave pp oo;at oo a;");
+        for (char r = 'a'; r < 'l'; r++) {
+            text.append("door ").append(r).append(' ').append((char) (r + 1)).append(';');
+        }
+        Check.due("the last of eleven", Check.row(text.toString()).through(0, 11), 0b10);
         // the ROOM that he leaves is not entered
         WardrobeRow left = Check.row("house h;owner o;owner p;room a h p;room b h o;door a b;at o a;");
         Check.due("from p's to his own", left.through(0, 1), 0);
@@ -358,6 +364,16 @@ public final class AskEdgeTest {
         waist.burn(0);
         Check.due("one in the middle", waist.cut(5), 1);
         Check.due("two at the fire", waist.cut(2), 2);
+        // the only door is at the fire, the longest row of robes leads on from it, told from its end
+        StringBuilder far = new StringBuilder("house hh;owner oo;" + Check.lines("room", 12, " hh oo"));
+        for (char r = 'k'; r > 'a'; r--) {
+            far.append("robe ").append(r).append(' ').append((char) (r + 1)).append(';');
+        }
+        WardrobeRow last = Check.row(far + "door a b;");
+        last.burn(0);
+        Check.due("the door at the other end", last.cut(11), 1);
+        last.burn(1);
+        Check.due("robes alone", last.cut(11), -1);
         // c has four doors, all of them at the fire or open to it behind one more
         WardrobeRow turned = Check.row("house hh;owner oo;room a hh oo;room b hh oo;room c hh oo;room d hh oo;room e hh oo;"
             + "door c b;door b a;door d b;door d c;door e c;door e b;robe d a;door c a;");
