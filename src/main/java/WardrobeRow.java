@@ -369,7 +369,7 @@ public final class WardrobeRow {
     }
 
     public int step(int i) {
-        return i >= 0 && i < ways.told ? ways.steps[i] : NONE;
+        return isBelow(i, ways.told) ? ways.steps[i] : NONE;
     }
 
     public int barred(int p) {
@@ -496,7 +496,7 @@ public final class WardrobeRow {
     }
 
     public int guests(int h) {
-        if (h < 0 || h >= terrace.manyOf(HOUSES)) {
+        if (!isBelow(h, terrace.manyOf(HOUSES))) {
             return NONE;
         }
         int hosts = hostsIn(h);
@@ -615,7 +615,7 @@ public final class WardrobeRow {
     // ---- images ----
 
     public boolean image(int k) {
-        if (k < 0 || k >= IMAGES) {
+        if (!isBelow(k, IMAGES)) {
             return false;
         }
         imageTerraces[k].copyFrom(terrace);
@@ -626,7 +626,7 @@ public final class WardrobeRow {
     }
 
     public boolean restore(int k) {
-        if (k < 0 || k >= IMAGES || !has(imagesKept, k)) {
+        if (!isBelow(k, IMAGES) || !has(imagesKept, k)) {
             return false;
         }
         terrace.copyFrom(imageTerraces[k]);
@@ -639,15 +639,15 @@ public final class WardrobeRow {
     // ---- small helps ----
 
     private boolean isRoom(int r) {
-        return r >= 0 && r < terrace.manyOf(ROOMS);
+        return isBelow(r, terrace.manyOf(ROOMS));
     }
 
     private boolean isOwner(int p) {
-        return p >= 0 && p < terrace.manyOf(OWNERS);
+        return isBelow(p, terrace.manyOf(OWNERS));
     }
 
     private boolean isPassage(int k) {
-        return k >= 0 && k < terrace.passages;
+        return isBelow(k, terrace.passages);
     }
 
     private boolean areTwoOwners(int p, int q) {
@@ -663,6 +663,10 @@ public final class WardrobeRow {
             past.confirm();
         }
         return why;
+    }
+
+    private static boolean isBelow(int i, int most) {
+        return i >= 0 && i < most;
     }
 
     private static int bit(int i) {
@@ -893,7 +897,7 @@ public final class WardrobeRow {
         }
 
         int manyOf(int sort) {
-            return sort >= 0 && sort < SORTS ? many[sort] : 0;
+            return isBelow(sort, SORTS) ? many[sort] : 0;
         }
 
         private long[] namesOf(int sort) {
@@ -923,7 +927,7 @@ public final class WardrobeRow {
         }
 
         void tell(int sort, long code) {
-            if (sort >= 0 && sort < SORTS && !isFull(sort)) {
+            if (isBelow(sort, SORTS) && !isFull(sort)) {
                 namesOf(sort)[many[sort]] = code;
                 many[sort]++;
             }
@@ -976,11 +980,11 @@ public final class WardrobeRow {
         }
 
         int liking(int p, int r) {
-            return p >= 0 && p < MOST_OWNERS && r >= 0 && r < MOST_ROOMS ? likings[p * MOST_ROOMS + r] : 0;
+            return isBelow(p, MOST_OWNERS) && isBelow(r, MOST_ROOMS) ? likings[p * MOST_ROOMS + r] : 0;
         }
 
         void like(int p, int r, int n) {
-            if (p >= 0 && p < MOST_OWNERS && r >= 0 && r < MOST_ROOMS) {
+            if (isBelow(p, MOST_OWNERS) && isBelow(r, MOST_ROOMS)) {
                 likings[p * MOST_ROOMS + r] = n;
             }
         }
@@ -1058,7 +1062,7 @@ public final class WardrobeRow {
 
         private boolean readHouseAndOwner(Tape tape, int r) {
             int h = tape.toldName(told, HOUSES);
-            if (h == NONE || r < 0 || r >= MOST_ROOMS) {
+            if (h == NONE || !isBelow(r, MOST_ROOMS)) {
                 return false;
             }
             told.houseOf[r] = h;
@@ -1255,7 +1259,7 @@ public final class WardrobeRow {
 
         boolean hasLeave(int p, int r) {
             int host = ownerOf[r];
-            return host == NONE || host == p || has(letBy[host], p);
+            return !isBelow(host, MOST_OWNERS) || host == p || has(letBy[host], p);
         }
 
         int goTo(Terrace terrace, int p, int r) {
@@ -1317,7 +1321,7 @@ public final class WardrobeRow {
         /** Who would have the rooms of one who lives; as many steps as there are owners bring all rounds home. */
         int successorOf(int p) {
             int q = heirOf[p];
-            for (int i = 0; i < MOST_OWNERS && q != NONE && q != p; i++) {
+            for (int i = 0; i < MOST_OWNERS && isBelow(q, MOST_OWNERS) && q != p; i++) {
                 if (!has(dead, q)) {
                     return q;
                 }
@@ -1834,7 +1838,7 @@ public final class WardrobeRow {
             if (!has(entered, r)) {
                 return NONE;
             }
-            if (here == NONE) {
+            if (!isBelow(here, MOST_ROOMS)) {
                 path[0] = r;
                 return 1;
             }
@@ -1982,7 +1986,8 @@ public final class WardrobeRow {
             // each round at least one ring goes, so there are no more rounds than owners
             for (int round = 0; round < MOST_OWNERS; round++) {
                 for (int p = 0; p < MOST_OWNERS; p++) {
-                    pointsTo[p] = brings[p] == NONE ? NONE : bringerOf[likedMost(terrace, p, brings[p])];
+                    int own = brings[p];
+                    pointsTo[p] = isBelow(own, MOST_ROOMS) ? bringerOf[likedMost(terrace, p, own)] : NONE;
                 }
                 closeRings();
             }
@@ -1993,7 +1998,7 @@ public final class WardrobeRow {
             Arrays.fill(bringerOf, NONE);
             for (int r = 0; r < terrace.manyOf(ROOMS); r++) {
                 int p = deeds.ownerOf[r];
-                if (p != NONE && deeds.lives(p) && brings[p] == NONE && !has(deeds.burnt, r)) {
+                if (isBelow(p, MOST_OWNERS) && deeds.lives(p) && brings[p] == NONE && !has(deeds.burnt, r)) {
                     brings[p] = r;
                     bringerOf[r] = p;
                 }
@@ -2018,12 +2023,12 @@ public final class WardrobeRow {
                 ringsOfMore += Integer.bitCount(ring) > 1 ? 1 : 0;
             }
             for (int p = 0; p < MOST_OWNERS; p++) {
-                if (has(gone, p)) {
+                if (has(gone, p) && isBelow(pointsTo[p], MOST_OWNERS)) {
                     gets[p] = brings[pointsTo[p]];
                 }
             }
             for (int p = 0; p < MOST_OWNERS; p++) {
-                if (has(gone, p)) {
+                if (has(gone, p) && isBelow(brings[p], MOST_ROOMS)) {
                     bringerOf[brings[p]] = NONE;
                     brings[p] = NONE;
                 }
@@ -2034,7 +2039,7 @@ public final class WardrobeRow {
         private int ringOf(int p) {
             int ring = 0;
             int at = p;
-            for (int i = 0; i < MOST_OWNERS && pointsTo[at] != NONE; i++) {
+            for (int i = 0; i < MOST_OWNERS && isBelow(pointsTo[at], MOST_OWNERS); i++) {
                 ring |= bit(at);
                 at = pointsTo[at];
                 if (at == p) {
